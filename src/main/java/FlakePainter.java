@@ -45,14 +45,14 @@ public final class FlakePainter {
     public int setGrey(int cell, int grey) throws IndexOutOfBoundsException, IllegalArgumentException {
         requireCell(cell);
         requireArgument(isGrey(grey));
-        history.record(picture);
+        history.keep(picture);
         return picture.putGrey(cell, grey);
     }
 
     public int shadeRow(int row, int first, int last) throws IndexOutOfBoundsException, IllegalArgumentException {
         requireIndex(row >= 0 && row < SIDE);
         requireArgument(isGrey(first) && isGrey(last));
-        history.record(picture);
+        history.keep(picture);
         int sum = 0;
         for (int column = 0; column < SIDE; column++) {
             int grey = first + (last - first) * column / (SIDE - 1);
@@ -66,7 +66,7 @@ public final class FlakePainter {
             throws IndexOutOfBoundsException, IllegalArgumentException {
         requireCell(cell);
         requireArgument(isLengthOfSide(height) && isLengthOfSide(width) && isGrey(grey));
-        history.record(picture);
+        history.keep(picture);
         int endRow = Math.min(cell / SIDE + height, SIDE);
         int endColumn = Math.min(cell % SIDE + width, SIDE);
         int altered = 0;
@@ -81,21 +81,21 @@ public final class FlakePainter {
     }
 
     public int invert() {
-        history.record(picture);
+        history.keep(picture);
         picture.turnOver();
         return picture.sumOfGreys();
     }
 
     public int thaw(int amount) throws IllegalArgumentException {
         requireArgument(isAmount(amount));
-        history.record(picture);
+        history.keep(picture);
         picture.lessen(amount);
         return picture.cellsWithoutGrey();
     }
 
     public int setRule(int rule) throws IllegalArgumentException {
         requireArgument(isRule(rule));
-        history.record(picture);
+        history.keep(picture);
         int previous = picture.rule;
         picture.rule = rule;
         return previous;
@@ -103,14 +103,14 @@ public final class FlakePainter {
 
     public int setThreshold(int threshold) throws IllegalArgumentException {
         requireArgument(threshold >= 1 && threshold <= WHITE);
-        history.record(picture);
+        history.keep(picture);
         int previous = picture.threshold;
         picture.threshold = threshold;
         return previous;
     }
 
     public boolean turnWinding() {
-        history.record(picture);
+        history.keep(picture);
         picture.winding = !picture.winding;
         return picture.winding;
     }
@@ -188,16 +188,14 @@ public final class FlakePainter {
     }
 
     public int roughness() {
-        paint();
-        return painting.differenceOfAllSquares(picture);
+        return roughnessWith(picture.rule);
     }
 
     public int smoothestRule() {
         int best = PLAIN;
-        int least = Integer.MAX_VALUE;
-        for (int rule = 0; rule < RULES; rule++) {
-            painting.paintByHandingOn(picture, rule, picture.threshold);
-            int difference = painting.differenceOfAllSquares(picture);
+        int least = roughnessWith(PLAIN);
+        for (int rule = PLAIN + 1; rule < RULES; rule++) {
+            int difference = roughnessWith(rule);
             if (difference < least) {
                 least = difference;
                 best = rule;
@@ -251,13 +249,8 @@ public final class FlakePainter {
 
     public int runText() throws IllegalStateException {
         requireState(text.firstError() == NONE);
-        history.record(picture);
-        int executed = 0;
-        int start = 0;
-        while (start < text.length && execute(start)) {
-            executed++;
-            start = text.find(';', start) + 1;
-        }
+        history.keep(picture);
+        int executed = executeCommands();
         text.length = 0;
         return executed;
     }
@@ -284,7 +277,7 @@ public final class FlakePainter {
     public int loadState(int slot) throws IndexOutOfBoundsException, IllegalStateException {
         requireIndex(isSlot(slot));
         requireState(saved[slot]);
-        history.record(picture);
+        history.keep(picture);
         picture.copyFrom(slots[slot]);
         return picture.sumOfGreys();
     }
@@ -339,6 +332,25 @@ public final class FlakePainter {
 
     private void paint() {
         painting.paintByHandingOn(picture, picture.rule, picture.threshold);
+    }
+
+    private int roughnessWith(int rule) {
+        painting.paintByHandingOn(picture, rule, picture.threshold);
+        return painting.differenceOfAllSquares(picture);
+    }
+
+    /** Executes the commands of a correct text up to the first one that fails; tells how many succeeded. */
+    private int executeCommands() {
+        int executed = 0;
+        for (int index = 0; index < text.length; index++) {
+            if (text.beginsCommand(index)) {
+                if (!execute(index)) {
+                    return executed;
+                }
+                executed++;
+            }
+        }
+        return executed;
     }
 
     /** Executes the command that starts at an index of a correct text; tells whether it succeeded. */
@@ -578,7 +590,7 @@ public final class FlakePainter {
             }
         }
 
-        void record(Picture picture) {
+        void keep(Picture picture) {
             if (count == KEPT_STATES) {
                 dropOldest();
             }
@@ -718,6 +730,10 @@ public final class FlakePainter {
 
         char characterAt(int index) {
             return index >= 0 && index < length ? characters[index] : ' ';
+        }
+
+        boolean beginsCommand(int index) {
+            return index == 0 || characterAt(index - 1) == ';';
         }
 
         /** The index of the first such character from an index on; the length if there is none. */

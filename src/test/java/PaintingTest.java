@@ -14,6 +14,7 @@ public final class PaintingTest {
         pathsOfOneCell();
         whatIsLost();
         wholePictures();
+        eachQuestionFirst();
         wrongCells();
         Check.end();
     }
@@ -179,6 +180,30 @@ public final class PaintingTest {
         flakesAre("WIDE winding 100", painter, -6536321592099976814L);
         painter.setRule(FlakePainter.CROSS);
         flakesAre("CROSS winding 100", painter, -7770516806864057966L);
+    }
+
+    /** Each question is asked alone after a change, so that none lives on what another one painted. */
+    private static void eachQuestionFirst() {
+        FlakePainter painter = painterWith(FlakePainter.PLAIN, 9, 200);
+        Check.due("P14 flakesByCollecting first", painter.flakesByCollecting(), 1L << 9);
+        painter.setGrey(10, 190);
+        Check.due("P14 flakesByCollecting after a change", painter.flakesByCollecting(), 3L << 9);
+        painter.setGrey(10, 0);
+        Check.due("P13 flakes after a change", painter.flakes(), 1L << 9);
+        painter.setGrey(9, 201);
+        Check.due("P17 errorOf after a change", painter.errorOf(9), -54);
+        painter.setGrey(9, 202);
+        Check.due("P16 valueOf after a change", painter.valueOf(10), -53);
+        painter.setGrey(9, 203);
+        Check.due("P19 handedOn after a change", painter.handedOn(9, 10), -52);
+        painter.setGrey(9, 204);
+        Check.due("P18 lost after a change", painter.lost(), -51);
+        painter.setGrey(9, 100);
+        Check.due("P15 flakeCount after a change", painter.flakeCount(), 0);
+        painter.setGrey(9, 200);
+        painter.smoothestRule();
+        painter.thresholdFor(0);
+        Check.due("P17 errorOf after trials of other rules", painter.errorOf(9), -55);
     }
 
     private static void wrongCells() {
