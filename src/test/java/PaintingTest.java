@@ -189,6 +189,7 @@ public final class PaintingTest {
         painter.setGrey(10, 190);
         Check.due("P14 flakesByCollecting after a change", painter.flakesByCollecting(), 3L << 9);
         painter.setGrey(10, 0);
+        Check.due("P14 flakesByCollecting after a flake has gone", painter.flakesByCollecting(), 1L << 9);
         Check.due("P13 flakes after a change", painter.flakes(), 1L << 9);
         painter.setGrey(9, 201);
         Check.due("P17 errorOf after a change", painter.errorOf(9), -54);
