@@ -259,7 +259,7 @@ public final class ModelTest {
                 Check.dueDouble(where + "excess", painter.excess(), share - Model.sum(model.now) / 16320.0);
                 break;
             default:
-                int flakes = below(2) == 0 ? around(0, 64) : Math.max(0, painter.flakeCount() - below(6));
+                int flakes = below(2) == 0 ? around(0, 64) : Math.max(0, Model.paint(model.now).count() - below(6));
                 Class<?> thrown = thrown(true, in(flakes, 0, 64), true);
                 due(where + "thresholdFor " + flakes, thrown, () -> painter.thresholdFor(flakes),
                     thrown == null ? model.thresholdFor(flakes) : 0);

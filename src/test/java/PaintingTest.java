@@ -1,7 +1,5 @@
 /** Promises 13 to 19: painting. */
 public final class PaintingTest {
-    private static final int[] BAD_CELLS = {-1, 64, 65, Integer.MIN_VALUE, Integer.MAX_VALUE};
-
     public static void main(String[] args) {
         plainRow();
         plainWinding();
@@ -15,7 +13,6 @@ public final class PaintingTest {
         whatIsLost();
         wholePictures();
         eachQuestionFirst();
-        wrongCells();
         Check.end();
     }
 
@@ -205,16 +202,5 @@ public final class PaintingTest {
         painter.smoothestRule();
         painter.thresholdFor(0);
         Check.due("P17 errorOf after trials of other rules", painter.errorOf(9), -55);
-    }
-
-    private static void wrongCells() {
-        FlakePainter painter = painterWith(FlakePainter.FULL, 0, 100);
-        for (int bad : BAD_CELLS) {
-            Check.outOfBounds("P16 valueOf(" + bad + ")", () -> painter.valueOf(bad));
-            Check.outOfBounds("P17 errorOf(" + bad + ")", () -> painter.errorOf(bad));
-            Check.outOfBounds("P19 handedOn(" + bad + ", 0)", () -> painter.handedOn(bad, 0));
-            Check.outOfBounds("P19 handedOn(0, " + bad + ")", () -> painter.handedOn(0, bad));
-            Check.outOfBounds("P19 handedOn(63, " + bad + ")", () -> painter.handedOn(63, bad));
-        }
     }
 }

@@ -2,8 +2,6 @@
 public final class TextTest {
     public static void main(String[] args) {
         appendText();
-        appendWrongly();
-        appendUntilFull();
         clearText();
         textLength();
         correctTexts();
@@ -13,7 +11,6 @@ public final class TextTest {
         runText();
         runUntilOneFails();
         runIsOneChange();
-        runWrongly();
         Check.end();
     }
 
@@ -31,45 +28,6 @@ public final class TextTest {
         other.appendText(Check.packed("g12=200"));
         Check.due("P25 order, run", other.runText(), 1);
         Check.due("P25 order, grey", other.greyOf(12), 200);
-    }
-
-    private static void appendWrongly() {
-        FlakePainter painter = new FlakePainter();
-        painter.appendText('i');
-        long[] wrong = {0, -1, 32, 127, 128, 255, 0x6700L, 0x670069L, 0x0100000000000069L, 0x2069L, 0x6920L, 0x7F69L,
-            0x8069696969696969L, 0x2069696969696969L, 0x6969696969696920L, 0x7F69696969696969L, 0x6900000000000000L,
-            0x0069690069696969L, 0x0000000000010069L, Long.MIN_VALUE, Long.MAX_VALUE, 10, 1};
-        for (long bad : wrong) {
-            Check.badArgument("P25 appendText " + Long.toHexString(bad), () -> painter.appendText(bad));
-        }
-        Check.due("P25 length after wrong calls", painter.textLength(), 1);
-        Check.due("P25 text after wrong calls", painter.textError(), FlakePainter.NONE);
-    }
-
-    private static void appendUntilFull() {
-        FlakePainter painter = new FlakePainter();
-        for (int times = 1; times <= 9; times++) {
-            Check.due("P25 length", painter.appendText(Check.packed("i;i;i;i;")), 8 * times);
-        }
-        Check.due("P25 length 79", painter.appendText(Check.packed("i;i;i;i")), 79);
-        Check.badState("P25 two more", () -> painter.appendText(Check.packed(";i")));
-        Check.badArgument("P25 no character when full", () -> painter.appendText(0));
-        Check.badArgument("P25 wrong code and too long", () -> painter.appendText(0x6920L));
-        Check.badArgument("P25 bits above and too long", () -> painter.appendText(0x69006969L));
-        Check.due("P25 length after wrong calls", painter.textLength(), 79);
-        Check.due("P25 length 80", painter.appendText(';'), 80);
-        Check.badState("P25 one more", () -> painter.appendText('i'));
-        Check.due("P28 a full text that is incomplete", painter.textError(), 80);
-        Check.due("P26 clear a full text", painter.clearText(), 80);
-        for (int times = 1; times <= 10; times++) {
-            painter.appendText(Check.packed("g63=255;"));
-        }
-        Check.badState("P25 eight more", () -> painter.appendText(Check.packed("g63=255;")));
-        Check.due("P28 full", painter.textError(), 80);
-        Check.due("P25 room again", painter.clearText(), 80);
-        Check.append(painter, "g0=1;g1=1;g2=1;g3=1;g4=1;g5=1;g6=1;g7=1;g8=1;g9=1;i;i;i;i;i;i;i;i;t1;r0;g10=10;w");
-        Check.due("P29 run a full text", painter.textLength(), 80);
-        Check.due("P29 commands of a full text", painter.runText(), 22);
     }
 
     private static void clearText() {
@@ -260,18 +218,5 @@ public final class TextTest {
         Check.due("P29 none executed", painter.runText(), 0);
         Check.due("P29 none executed is a change", painter.undoCount(), 2);
         Check.sameState("P29 none executed", painter, before);
-    }
-
-    private static void runWrongly() {
-        FlakePainter painter = new FlakePainter();
-        Check.badState("P29 run nothing", painter::runText);
-        for (String text : new String[] {"g5", "i;", "ix", "g5=", "i;i;t", ";"}) {
-            Check.append(painter, text);
-            Check.badState("P29 run " + text, painter::runText);
-            Check.due("P29 text stays", painter.textLength(), text.length());
-            painter.clearText();
-        }
-        Check.due("P29 sum after wrong calls", painter.greySum(), 0);
-        Check.due("P29 changes after wrong calls", painter.undoCount(), 0);
     }
 }

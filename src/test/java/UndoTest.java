@@ -3,12 +3,10 @@ public final class UndoTest {
     public static void main(String[] args) {
         undoOfEachChange();
         undoOfChangesThatAlterNothing();
-        wrongCallsRecordNothing();
         sixStatesAreKept();
         undoLeavesTheRest();
         saveAndLoad();
         slotsAreApart();
-        wrongSlots();
         Check.end();
     }
 
@@ -69,21 +67,6 @@ public final class UndoTest {
         }
         Check.badState("P30 nothing left", painter::undo);
         Check.due("P31 nothing left", painter.undoCount(), 0);
-    }
-
-    private static void wrongCallsRecordNothing() {
-        FlakePainter painter = new FlakePainter();
-        Check.badState("P30 undo at first", painter::undo);
-        Check.outOfBounds("P30 setGrey", () -> painter.setGrey(64, 0));
-        Check.badArgument("P30 shadeRow", () -> painter.shadeRow(0, 0, 256));
-        Check.badArgument("P30 fill", () -> painter.fill(0, 9, 1, 0));
-        Check.badArgument("P30 thaw", () -> painter.thaw(0));
-        Check.badArgument("P30 setRule", () -> painter.setRule(4));
-        Check.badArgument("P30 setThreshold", () -> painter.setThreshold(0));
-        Check.badState("P30 runText", painter::runText);
-        Check.badState("P30 loadState", () -> painter.loadState(0));
-        Check.due("P31 nothing is recorded", painter.undoCount(), 0);
-        Check.badState("P30 undo still", painter::undo);
     }
 
     private static void sixStatesAreKept() {
@@ -161,18 +144,5 @@ public final class UndoTest {
         painter.setGrey(0, 44);
         Check.due("P33 slot 1 still", painter.loadState(1), 22);
         Check.due("P33 slot 0 is replaced", painter.loadState(0), 33);
-    }
-
-    private static void wrongSlots() {
-        FlakePainter painter = new FlakePainter();
-        painter.setGrey(0, 9);
-        for (int bad : new int[] {-1, 2, 3, Integer.MIN_VALUE, Integer.MAX_VALUE}) {
-            Check.outOfBounds("P32 saveState(" + bad + ")", () -> painter.saveState(bad));
-            Check.outOfBounds("P33 loadState(" + bad + ")", () -> painter.loadState(bad));
-        }
-        Check.badState("P33 loadState(0)", () -> painter.loadState(0));
-        Check.badState("P33 loadState(1)", () -> painter.loadState(1));
-        Check.due("P33 changes after wrong calls", painter.undoCount(), 1);
-        Check.due("P33 sum after wrong calls", painter.greySum(), 9);
     }
 }

@@ -2,12 +2,18 @@
 final class Check {
     private static int wrong = 0;
     private static int asked = 0;
+    private static String test = "";
 
     private Check() {
     }
 
     interface Call {
         long answer();
+    }
+
+    /** Every wrong answer from now on is told with this before it. */
+    static void inTest(String name) {
+        test = name;
     }
 
     static void due(String what, long got, long want) {
@@ -28,6 +34,13 @@ final class Check {
         }
     }
 
+    static void dueText(String what, String got, String want) {
+        asked++;
+        if (!got.equals(want)) {
+            report(what + " is " + got + ", due is " + want);
+        }
+    }
+
     static void outOfBounds(String what, Call call) {
         dueThrown(what, call, IndexOutOfBoundsException.class);
     }
@@ -40,7 +53,7 @@ final class Check {
         dueThrown(what, call, IllegalStateException.class);
     }
 
-    private static void dueThrown(String what, Call call, Class<? extends RuntimeException> due) {
+    static void dueThrown(String what, Call call, Class<? extends RuntimeException> due) {
         asked++;
         try {
             report(what + " answered " + call.answer() + ", due is " + due.getSimpleName());
@@ -55,7 +68,7 @@ final class Check {
     static void report(String line) {
         wrong++;
         if (wrong <= 40) {
-            System.out.println(line);
+            System.out.println(test + line);
         }
     }
 
@@ -101,10 +114,6 @@ final class Check {
     }
 
     static void sameState(String what, FlakePainter painter, String want) {
-        asked++;
-        String got = stateOf(painter);
-        if (!got.equals(want)) {
-            report(what + ": the state is " + got + ", due is " + want);
-        }
+        dueText(what + ": the state", stateOf(painter), want);
     }
 }
